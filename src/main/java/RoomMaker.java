@@ -479,7 +479,6 @@ public final class RoomMaker {
         private void begin() {
             Arrays.fill(contents, 0);
             Arrays.fill(cells, 0);
-            Arrays.fill(outputs, 0);
             next = 0;
             done = 0;
             loads = 0;
