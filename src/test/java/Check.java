@@ -6,6 +6,7 @@ final class Check {
 
     private int made;
     private int wrong;
+    private String sentence = "";
 
     /** What a call answers, or throws. and the name of what it throws. */
     static String outcome(Call call) {
@@ -14,6 +15,19 @@ final class Check {
         } catch (RuntimeException e) {
             return "throws." + e.getClass().getSimpleName();
         }
+    }
+
+    /** Runs the test that is a sentence's own; what it finds wrong is told with the sentence. */
+    void sentence(String words, Runnable test) {
+        sentence = "[" + words + "] ";
+        int before = made;
+        try {
+            test.run();
+            yes("something is looked at", made > before);
+        } catch (RuntimeException e) {
+            same("the test", "an end", e.toString());
+        }
+        sentence = "";
     }
 
     void due(String what, long want, Call call) {
@@ -42,7 +56,7 @@ final class Check {
             return true;
         }
         wrong++;
-        System.out.println(what + " answered " + got + ", due is " + want);
+        System.out.println(sentence + what + " answered " + got + ", due is " + want);
         return false;
     }
 

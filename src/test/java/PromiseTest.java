@@ -1,18 +1,5 @@
 /** Each promise of the document by itself: ordinary inputs, the edges it names, and wrong inputs. */
-public final class PromiseTest {
-    private static final int SET = 0;
-    private static final int ADD = 1;
-    private static final int SUB = 2;
-    private static final int MUL = 3;
-    private static final int COPY = 4;
-    private static final int READ = 5;
-    private static final int LOAD = 6;
-    private static final int STORE = 7;
-    private static final int WRITE = 8;
-    private static final int GO = 9;
-    private static final int LESS = 10;
-    private static final int SAME = 11;
-
+public final class PromiseTest extends Programs {
     private static final Check CHECK = new Check();
 
     public static void main(String[] args) {
@@ -46,28 +33,11 @@ public final class PromiseTest {
         CHECK.end();
     }
 
-    /** A new object with a program; each row is a sort, x, y and z. */
-    private static RoomMaker with(int[]... rows) {
-        RoomMaker maker = new RoomMaker();
-        for (int[] row : rows) {
-            maker.put(row[0], row[1], row.length > 2 ? row[2] : 0, row.length > 3 ? row[3] : 0);
-        }
-        return maker;
-    }
-
-    private static int[] row(int... numbers) {
-        return numbers;
-    }
-
-    private static long bit(boolean answer) {
-        return answer ? 1 : 0;
-    }
-
     private static void newObject() {
         RoomMaker maker = new RoomMaker();
         CHECK.due("1: instructions of a new object", 0, () -> maker.count(0));
         CHECK.due("1: inputs of a new object", 0, () -> maker.count(8));
-        CHECK.due("1: what comes next in a new object", RoomMaker.NONE, () -> maker.count(1));
+        CHECK.due("1: what comes next in a new object", NONE, () -> maker.count(1));
         CHECK.due("1: a new object has nothing to restart", 0, () -> bit(maker.restart()));
         CHECK.due("1: a new object builds", 0, () -> maker.build(1));
     }
@@ -75,7 +45,7 @@ public final class PromiseTest {
     private static void putAnswers() {
         RoomMaker maker = new RoomMaker();
         int[][] edges = {
-            row(SET, 15, Integer.MIN_VALUE, 0), row(SET, 0, Integer.MAX_VALUE, 0), row(ADD, 15, 15, 15),
+            row(SET, 15, MIN, 0), row(SET, 0, MAX, 0), row(ADD, 15, 15, 15),
             row(SUB, 0, 15, 0), row(MUL, 15, 0, 15), row(COPY, 15, 15, 0), row(READ, 15, 0, 0),
             row(LOAD, 15, 15, 0), row(STORE, 15, 15, 0), row(WRITE, 15, 0, 0), row(GO, 64, 0, 0),
             row(GO, 0, 0, 0), row(LESS, 15, 15, 64), row(SAME, 15, 15, 0)};
@@ -86,7 +56,7 @@ public final class PromiseTest {
         for (int i = edges.length; i < 64; i++) {
             CHECK.due("2: put", i + 1, () -> maker.put(WRITE, 0, 0, 0));
         }
-        CHECK.due("2: the 65th put", RoomMaker.NONE, () -> maker.put(WRITE, 0, 0, 0));
+        CHECK.due("2: the 65th put", NONE, () -> maker.put(WRITE, 0, 0, 0));
         CHECK.illegalArgument("2: a wrong 65th put", () -> maker.put(12, 0, 0, 0));
         CHECK.due("2: instructions in the end", 64, () -> maker.count(0));
     }
@@ -94,7 +64,7 @@ public final class PromiseTest {
     private static void putRefuses() {
         RoomMaker maker = new RoomMaker();
         int[][] wrong = {
-            row(-1, 0, 0, 0), row(12, 0, 0, 0), row(Integer.MIN_VALUE, 0, 0, 0), row(Integer.MAX_VALUE, 0, 0, 0),
+            row(-1, 0, 0, 0), row(12, 0, 0, 0), row(MIN, 0, 0, 0), row(MAX, 0, 0, 0),
             row(SET, 16, 0, 0), row(SET, -1, 0, 0), row(SET, 0, 0, 1), row(SET, 0, 0, -1),
             row(COPY, 16, 0, 0), row(COPY, 0, 16, 0), row(COPY, 0, -1, 0), row(COPY, 0, 0, 1),
             row(READ, 16, 0, 0), row(READ, -1, 0, 0), row(READ, 0, 1, 0), row(READ, 0, 0, 1),
@@ -132,13 +102,13 @@ public final class PromiseTest {
         CHECK.illegalArgument("2: a put that throws", () -> maker.put(SET, 16, 0, 0));
         CHECK.due("2: it leaves what was built", 0, () -> maker.count(1));
         maker.put(WRITE, 0, 0, 0);
-        CHECK.due("2: what was built is gone", RoomMaker.NONE, () -> maker.count(1));
-        while (maker.count(0) < 64) {
+        CHECK.due("2: what was built is gone", NONE, () -> maker.count(1));
+        for (int i = 3; i < 64; i++) {
             maker.put(WRITE, 0, 0, 0);
         }
         maker.build(1);
-        CHECK.due("2: a put without room", RoomMaker.NONE, () -> maker.put(WRITE, 0, 0, 0));
-        CHECK.due("2: what was built is gone then too", RoomMaker.NONE, () -> maker.count(1));
+        CHECK.due("2: a put without room", NONE, () -> maker.put(WRITE, 0, 0, 0));
+        CHECK.due("2: what was built is gone then too", NONE, () -> maker.count(1));
     }
 
     private static void clearForgets() {
@@ -163,27 +133,22 @@ public final class PromiseTest {
             int number = i;
             CHECK.due("4: give", i, () -> maker.give(100 + number));
         }
-        CHECK.due("4: the 33rd that waits", RoomMaker.NONE, () -> maker.give(1));
+        CHECK.due("4: the 33rd that waits", NONE, () -> maker.give(1));
         maker.build(1);
         CHECK.due("4: build leaves the inputs", 32, () -> maker.count(8));
         maker.run(4);
         CHECK.due("4: inputs that wait", 30, () -> maker.count(8));
         CHECK.due("4: the first in comes first", 101, () -> maker.output(0));
-        CHECK.due("4: room again", 31, () -> maker.give(Integer.MIN_VALUE));
+        CHECK.due("4: room again", 31, () -> maker.give(MIN));
         CHECK.due("4: room again", 32, () -> maker.give(-5));
-        CHECK.due("4: no room again", RoomMaker.NONE, () -> maker.give(1));
+        CHECK.due("4: no room again", NONE, () -> maker.give(1));
         maker.run(3 * 32 + 1);
         CHECK.due("4: the last one", -5, () -> maker.output(0));
-        CHECK.due("4: the one ahead of it", Integer.MIN_VALUE, () -> maker.output(1));
+        CHECK.due("4: the one ahead of it", MIN, () -> maker.output(1));
         CHECK.due("4: the one that was refused never came", 132, () -> maker.output(2));
         maker.run(3);
         CHECK.due("4: without an input it is 0", 0, () -> maker.output(0));
         CHECK.due("4: none waits", 0, () -> maker.count(8));
-    }
-
-    private static RoomMaker threeAtOnce() {
-        return with(row(SET, 0, 1), row(SET, 1, 2), row(SET, 2, 3),
-            row(WRITE, 0), row(WRITE, 1), row(WRITE, 2));
     }
 
     private static void buildAnswers() {
@@ -203,7 +168,7 @@ public final class PromiseTest {
     private static void buildRefuses() {
         RoomMaker maker = threeAtOnce();
         maker.build(2);
-        for (int r : row(0, 9, -1, Integer.MIN_VALUE, Integer.MAX_VALUE)) {
+        for (int r : row(0, 9, -1, MIN, MAX)) {
             CHECK.illegalArgument("5: build(" + r + ")", () -> maker.build(r));
         }
         CHECK.due("5: what was built stays when it throws", 0, () -> maker.count(1));
@@ -215,7 +180,7 @@ public final class PromiseTest {
         CHECK.due("5: numbers of SET lead nowhere", 0, () -> with(row(SET, 9, 99)).build(1));
         RoomMaker astray = with(row(GO, 2));
         CHECK.illegalState("5: astray", () -> astray.build(1));
-        CHECK.due("5: then nothing is built", RoomMaker.NONE, astray::pressure);
+        CHECK.due("5: then nothing is built", NONE, astray::pressure);
         astray.put(WRITE, 0, 0, 0);
         CHECK.due("5: one more and it leads to the end", 0, () -> astray.build(1));
     }
@@ -228,14 +193,14 @@ public final class PromiseTest {
     private static void spanTells() {
         RoomMaker maker = with(row(SET, 0, 5), row(SET, 1, 3), row(ADD, 2, 0, 1), row(STORE, 2, 0),
             row(LOAD, 3, 2), row(WRITE, 4));
-        spanIs(maker, 0, RoomMaker.NONE, RoomMaker.NONE);
+        spanIs(maker, 0, NONE, NONE);
         maker.build(2);
         spanIs(maker, 0, 1, 6);
         spanIs(maker, 1, 3, 4);
         spanIs(maker, 2, 5, 8);
         spanIs(maker, 3, 9, 9);
         spanIs(maker, 4, 0, 10);
-        spanIs(maker, 15, RoomMaker.NONE, RoomMaker.NONE);
+        spanIs(maker, 15, NONE, NONE);
         CHECK.outOfBounds("6: no value 16", () -> maker.span(16, false));
         CHECK.outOfBounds("6: no value -1", () -> maker.span(-1, true));
         CHECK.outOfBounds("6: no value 16 of a new object", () -> new RoomMaker().span(16, true));
@@ -394,7 +359,7 @@ public final class PromiseTest {
     }
 
     private static void pressureTells() {
-        CHECK.due("9: nothing is built", RoomMaker.NONE, () -> new RoomMaker().pressure());
+        CHECK.due("9: nothing is built", NONE, () -> new RoomMaker().pressure());
         RoomMaker empty = new RoomMaker();
         empty.build(1);
         CHECK.due("9: no program", 0, empty::pressure);
@@ -440,14 +405,12 @@ public final class PromiseTest {
     }
 
     private static void runReckons() {
-        int max = Integer.MAX_VALUE;
-        int min = Integer.MIN_VALUE;
         for (int r = 1; r <= 8; r++) {
             int registers = r;
-            CHECK.due("10: ADD goes round", min, () -> outputOf(registers,
-                row(SET, 1, max), row(SET, 2, 1), row(ADD, 0, 1, 2), row(WRITE, 0)));
-            CHECK.due("10: SUB goes round", max, () -> outputOf(registers,
-                row(SET, 1, min), row(SET, 2, 1), row(SUB, 0, 1, 2), row(WRITE, 0)));
+            CHECK.due("10: ADD goes round", MIN, () -> outputOf(registers,
+                row(SET, 1, MAX), row(SET, 2, 1), row(ADD, 0, 1, 2), row(WRITE, 0)));
+            CHECK.due("10: SUB goes round", MAX, () -> outputOf(registers,
+                row(SET, 1, MIN), row(SET, 2, 1), row(SUB, 0, 1, 2), row(WRITE, 0)));
             CHECK.due("10: MUL goes round", 46341 * 46341, () -> outputOf(registers,
                 row(SET, 1, 46341), row(MUL, 0, 1, 1), row(WRITE, 0)));
             CHECK.due("10: COPY", 8, () -> outputOf(registers,
@@ -457,7 +420,7 @@ public final class PromiseTest {
             CHECK.due("10: the cell of 21 is that of 5", 78, () -> outputOf(registers,
                 row(SET, 1, 5), row(SET, 2, 78), row(SET, 3, 21), row(STORE, 1, 2), row(LOAD, 0, 3), row(WRITE, 0)));
             CHECK.due("10: LESS knows signs", 1, () -> outputOf(registers,
-                row(SET, 1, min), row(SET, 2, max), row(SET, 3, 1), row(LESS, 1, 2, 5), row(SET, 3, 2), row(WRITE, 3)));
+                row(SET, 1, MIN), row(SET, 2, MAX), row(SET, 3, 1), row(LESS, 1, 2, 5), row(SET, 3, 2), row(WRITE, 3)));
             CHECK.due("10: LESS of the same goes on", 2, () -> outputOf(registers,
                 row(SET, 1, 4), row(SET, 2, 4), row(SET, 3, 1), row(LESS, 1, 2, 5), row(SET, 3, 2), row(WRITE, 3)));
             CHECK.due("10: SAME", 1, () -> outputOf(registers,
@@ -475,7 +438,7 @@ public final class PromiseTest {
         CHECK.illegalState("10: no program is at its end", () -> empty.run(1));
         RoomMaker maker = with(row(SET, 0, 1), row(GO, 2));
         maker.build(1);
-        for (int n : row(0, -1, 5001, Integer.MIN_VALUE, Integer.MAX_VALUE)) {
+        for (int n : row(0, -1, 5001, MIN, MAX)) {
             CHECK.illegalArgument("10: run(" + n + ")", () -> maker.run(n));
         }
         CHECK.due("10: nothing was done then", 0, () -> maker.count(2));
@@ -528,8 +491,8 @@ public final class PromiseTest {
         CHECK.due("12: telling loads nothing", 1, () -> maker.count(3));
         CHECK.outOfBounds("12: value(32)", () -> maker.value(32));
         CHECK.outOfBounds("12: value(-1)", () -> maker.value(-1));
-        CHECK.outOfBounds("12: the least int", () -> maker.value(Integer.MIN_VALUE));
-        CHECK.outOfBounds("12: the greatest int", () -> maker.value(Integer.MAX_VALUE));
+        CHECK.outOfBounds("12: the least int", () -> maker.value(MIN));
+        CHECK.outOfBounds("12: the greatest int", () -> maker.value(MAX));
     }
 
     private static void outputKeepsSixteen() {
@@ -545,7 +508,7 @@ public final class PromiseTest {
             int which = k;
             CHECK.due("13: output(" + k + ")", 20 - k, () -> maker.output(which));
         }
-        for (int k : row(16, 17, -1, Integer.MIN_VALUE, Integer.MAX_VALUE)) {
+        for (int k : row(16, 17, -1, MIN, MAX)) {
             CHECK.due("13: output(" + k + ")", 0, () -> maker.output(k));
         }
         maker.put(WRITE, 0, 0, 0);
@@ -570,8 +533,8 @@ public final class PromiseTest {
         countIs(maker, 4, 2, 2, 0, 0, 0, 1, 0, 1, -1);
         maker.run(2);
         countIs(maker, 4, 4, 3, 0, 0, 0, 1, 1, 1, -1);
-        for (int what : row(-1, 9, Integer.MIN_VALUE, Integer.MAX_VALUE)) {
-            CHECK.due("14: count(" + what + ")", RoomMaker.NONE, () -> maker.count(what));
+        for (int what : row(-1, 9, MIN, MAX)) {
+            CHECK.due("14: count(" + what + ")", NONE, () -> maker.count(what));
         }
     }
 
@@ -637,10 +600,10 @@ public final class PromiseTest {
         maker.build(2);
         maker.run(6);
         maker.put(WRITE, 0, 0, 0);
-        CHECK.due("6: span when it is gone", RoomMaker.NONE, () -> maker.span(0, true));
+        CHECK.due("6: span when it is gone", NONE, () -> maker.span(0, true));
         CHECK.due("7: lives when it is gone", 0, () -> bit(maker.lives(0, 1)));
-        CHECK.due("8: place when it is gone", RoomMaker.NONE, () -> maker.place(0));
-        CHECK.due("9: pressure when it is gone", RoomMaker.NONE, maker::pressure);
+        CHECK.due("8: place when it is gone", NONE, () -> maker.place(0));
+        CHECK.due("9: pressure when it is gone", NONE, maker::pressure);
         CHECK.illegalState("10: run when it is gone", () -> maker.run(1));
         CHECK.due("11: restart when it is gone", 0, () -> bit(maker.restart()));
         CHECK.illegalState("12: value when it is gone", () -> maker.value(0));
