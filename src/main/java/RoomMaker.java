@@ -303,7 +303,8 @@ public final class RoomMaker {
             Arrays.fill(livingAt, 0);
             boolean changed = true;
             // Each pass carries every value at least one instruction further back along its
-            // shortest way, and no shortest way is longer than the program.
+            // shortest way, and no shortest way is longer than the program; the points behind
+            // instructions that go back may need one pass more.
             for (int pass = 0; pass <= program.length && changed; pass++) {
                 changed = passBack(program);
             }
@@ -315,7 +316,8 @@ public final class RoomMaker {
             for (int i = program.length - 1; i >= 0; i--) {
                 int behind = livingBehind(program, i);
                 int ahead = program.readBy(i) | behind & ~program.setBy(i);
-                changed = changed || livingAt[2 * i] != ahead || livingAt[2 * i + 1] != behind;
+                // What lives behind comes from what lives ahead elsewhere, so that tells of changes.
+                changed = changed || livingAt[2 * i] != ahead;
                 livingAt[2 * i] = ahead;
                 livingAt[2 * i + 1] = behind;
             }
