@@ -590,7 +590,8 @@ public final class RoomMaker {
         }
 
         private void write(int number) {
-            outputs[outputsMade % KEPT_OUTPUTS] = number;
+            // A mask and no remainder, so that no count, however far it goes round, leads outside.
+            outputs[outputsMade & KEPT_OUTPUTS - 1] = number;
             outputsMade++;
         }
 
@@ -598,7 +599,7 @@ public final class RoomMaker {
             if (k < 0 || k >= KEPT_OUTPUTS || k >= outputsMade) {
                 return 0;
             }
-            return outputs[(outputsMade - 1 - k) % KEPT_OUTPUTS];
+            return outputs[outputsMade - 1 - k & KEPT_OUTPUTS - 1];
         }
 
         private int tally(int what) {
